@@ -27,7 +27,7 @@ public final class ThreeToSend {
         squad = new Squad();
         tape = new Tape();
         odds = new Odds(squad);
-        reader = new Reader(tape);
+        reader = new Reader(tape.bytes);
         bench = new Best(squad, odds);
         walk = new Walk(squad, odds);
         log = new Log(squad);
@@ -405,7 +405,11 @@ public final class ThreeToSend {
         long low = -1;
         int lowRule = -1;
         for (int k = 0; k < Odds.RULES; k++) {
-            long least = odds.isTold(Odds.RULE + k) ? leastOf(k) : -1;
+            long least = -1;
+            for (int other = 0; other < Odds.OTHERS; other++) {
+                long value = isMet(k, other) ? walk.first(k, other) : -1;
+                least = value >= 0 && (least < 0 || value < least) ? value : least;
+            }
             if (least > low) {
                 low = least;
                 lowRule = k;
@@ -418,7 +422,10 @@ public final class ThreeToSend {
         long high = -1;
         int highOther = -1;
         for (int other = 0; other < Odds.OTHERS; other++) {
-            long most = odds.isTold(Odds.OTHER + other) ? mostOf(other) : -1;
+            long most = -1;
+            for (int k = 0; k < Odds.RULES; k++) {
+                most = isMet(k, other) ? Math.max(most, walk.first(k, other)) : most;
+            }
             if (most >= 0 && (high < 0 || most < high)) {
                 high = most;
                 highOther = other;
@@ -427,27 +434,8 @@ public final class ThreeToSend {
         return what == 0 ? high : highOther;
     }
 
-    // The least of a rule over the others that are told; -1 if none is.
-    private long leastOf(int k) {
-        long least = -1;
-        for (int other = 0; other < Odds.OTHERS; other++) {
-            if (odds.isTold(Odds.OTHER + other)) {
-                long value = walk.first(k, other);
-                least = least < 0 ? value : Math.min(least, value);
-            }
-        }
-        return least;
-    }
-
-    // The greatest of the rules that are told against one of the others; -1 if none is.
-    private long mostOf(int other) {
-        long most = -1;
-        for (int k = 0; k < Odds.RULES; k++) {
-            if (odds.isTold(Odds.RULE + k)) {
-                most = Math.max(most, walk.first(k, other));
-            }
-        }
-        return most;
+    private boolean isMet(int k, int other) {
+        return odds.isTold(Odds.RULE + k) && odds.isTold(Odds.OTHER + other);
     }
 
     // A and b are of the one rule, c and d of the other one.
@@ -554,7 +542,7 @@ public final class ThreeToSend {
         static final int MOST = 220;
 
         int length;
-        private final int[] bytes;
+        final int[] bytes;
 
         Tape() {
             bytes = new int[MOST];
@@ -723,7 +711,7 @@ public final class ThreeToSend {
 
         int legsOf(int player, int period, int code, int pace) {
             if (player < 2) {
-                return Math.max(0, legsAtFirst(player) - period * lossOf(Rows.at(loss, player), pace));
+                return Math.max(0, Rows.at(legs, player) - period * lossOf(Rows.at(loss, player), pace));
             }
             int digit = digit(code, player);
             return isOn(digit) ? (digit - 1) % 3 : 0;
@@ -820,7 +808,7 @@ public final class ThreeToSend {
         int clauses;
         private int length;
         // No byte makes more than one step.
-        private final int[] steps;
+        final int[] steps;
         private final int[] heads;
         private final int[] sums;
         private final int[] conditions;
@@ -864,10 +852,6 @@ public final class ThreeToSend {
             Rows.put(steps, step, Rows.at(steps, step) & 15 | length << 4);
         }
 
-        int stepAt(int i) {
-            return Rows.at(steps, i);
-        }
-
         int headOf(int clause) {
             return Rows.at(heads, clause);
         }
@@ -888,6 +872,7 @@ public final class ThreeToSend {
     // Reads a TEXT from the tape, from the left, up to its first fault.
     private static final class Reader {
         static final String LETTERS = "tnsbflmexuqoypkj";
+        private static final String DIGITS = "0123456789";
         private static final int STRANGE = 1;
         private static final int SIXTH_DIGIT = 2;
         private static final int FIFTEENTH = 4;
@@ -896,16 +881,18 @@ public final class ThreeToSend {
         private static final int THE_END = -1;
         private static final int AT_FAULT = -2;
 
-        private final Tape tape;
+        private final int[] bytes;
         private Text text;
         private String heads;
         private int end;
         private int at;
+        // Behind a fault no sign fits any more, so that all who read come back at once.
+        private int sign;
         private int open;
         private int fault;
 
-        Reader(Tape tape) {
-            this.tape = tape;
+        Reader(int[] bytes) {
+            this.bytes = bytes;
             text = null;
             heads = "";
         }
@@ -914,44 +901,42 @@ public final class ThreeToSend {
         int read(Text into, int n, String headLetters) {
             text = into;
             heads = headLetters;
-            end = n;
-            at = 0;
-            open = 0;
-            fault = 0;
             if (text == null || heads == null) {
                 return NONE;
             }
             text.empty();
+            end = n;
+            open = 0;
+            fault = 0;
+            at = -1;
+            move();
             clause();
-            for (int turn = 0; turn < end && sign() >= 0; turn++) {
+            for (int turn = 0; turn < end && sign >= 0; turn++) {
                 expect(';');
                 clause();
             }
             return fault != 0 ? -1000 * fault - at : text.clauses;
         }
 
-        // Behind a fault no sign fits any more, so that all who read come back at once.
-        private int sign() {
-            if (fault != 0) {
-                return AT_FAULT;
-            }
-            return at < end ? tape.byteAt(at) : THE_END;
+        private void move() {
+            at++;
+            sign = at >= 0 && at < end && at < bytes.length ? bytes[at] : THE_END;
         }
 
         private void fail(int number) {
             if (fault == 0) {
                 fault = number;
+                sign = AT_FAULT;
             }
         }
 
         private boolean isOneOf(String signs) {
-            int sign = sign();
             return sign >= 0 && signs.indexOf((char) sign) >= 0;
         }
 
         private void expect(int due) {
-            if (sign() == due) {
-                at++;
+            if (sign == due) {
+                move();
             } else {
                 fail(STRANGE);
             }
@@ -962,13 +947,8 @@ public final class ThreeToSend {
                 fail(TOO_DEEP);
             } else {
                 open++;
-                at++;
+                move();
             }
-        }
-
-        private void leave(int due) {
-            expect(due);
-            open--;
         }
 
         private void clause() {
@@ -977,8 +957,8 @@ public final class ThreeToSend {
             } else if (text.clauses >= Text.MOST_CLAUSES) {
                 fail(FIFTEENTH);
             } else {
-                text.beginClause(sign());
-                at++;
+                text.beginClause(sign);
+                move();
                 sum();
                 text.beginCondition();
                 inRound();
@@ -987,19 +967,20 @@ public final class ThreeToSend {
         }
 
         private void inRound() {
-            if (sign() != '(') {
+            if (sign == '(') {
+                enter();
+                parts();
+                expect(')');
+                open--;
+            } else {
                 fail(STRANGE);
-                return;
             }
-            enter();
-            parts();
-            leave(')');
         }
 
         private void parts() {
             part();
-            for (int turn = 0; turn < end && sign() == '|'; turn++) {
-                at++;
+            for (int turn = 0; turn < end && sign == '|'; turn++) {
+                move();
                 int leap = text.add(Text.OR, 0);
                 part();
                 text.landHere(leap);
@@ -1008,8 +989,8 @@ public final class ThreeToSend {
 
         private void part() {
             piece();
-            for (int turn = 0; turn < end && sign() == '&'; turn++) {
-                at++;
+            for (int turn = 0; turn < end && sign == '&'; turn++) {
+                move();
                 int leap = text.add(Text.AND, 0);
                 piece();
                 text.landHere(leap);
@@ -1017,28 +998,24 @@ public final class ThreeToSend {
         }
 
         private void piece() {
-            if (sign() == '!') {
-                enter();
-                if (fault == 0) {
-                    piece();
-                    text.add(Text.NOT, 0);
-                    open--;
-                }
-            } else if (sign() == '(') {
+            if (sign == '(') {
                 inRound();
-            } else {
-                comparison();
+                return;
             }
-        }
-
-        private void comparison() {
+            if (sign == '!') {
+                enter();
+                piece();
+                text.add(Text.NOT, 0);
+                open--;
+                return;
+            }
             sum();
-            int kind = sign() == '<' ? Text.LESS : sign() == '>' ? Text.MORE : Text.LIKE;
+            int kind = sign == '<' ? Text.LESS : sign == '>' ? Text.MORE : Text.LIKE;
             if (!isOneOf("<>=")) {
                 fail(STRANGE);
                 return;
             }
-            at++;
+            move();
             sum();
             text.add(kind, 0);
         }
@@ -1046,8 +1023,8 @@ public final class ThreeToSend {
         private void sum() {
             term();
             for (int turn = 0; turn < end && isOneOf("+-"); turn++) {
-                int kind = sign() == '+' ? Text.PLUS : Text.MINUS;
-                at++;
+                int kind = sign == '+' ? Text.PLUS : Text.MINUS;
+                move();
                 term();
                 text.add(kind, 0);
             }
@@ -1056,41 +1033,40 @@ public final class ThreeToSend {
         private void term() {
             factor();
             for (int turn = 0; turn < end && isOneOf("*/%"); turn++) {
-                int kind = sign() == '*' ? Text.TIMES : sign() == '/' ? Text.DIVIDED : Text.REST;
-                at++;
+                int kind = sign == '*' ? Text.TIMES : sign == '/' ? Text.DIVIDED : Text.REST;
+                move();
                 factor();
                 text.add(kind, 0);
             }
         }
 
         private void factor() {
-            if (sign() == '[') {
+            if (sign == '[') {
                 enter();
-                if (fault == 0) {
-                    sum();
-                    leave(']');
-                }
-            } else if (isOneOf("0123456789")) {
-                number();
+                sum();
+                expect(']');
+                open--;
+            } else if (isOneOf(DIGITS)) {
+                text.add(Text.NUMBER, number());
             } else if (isOneOf(LETTERS)) {
-                text.add(Text.LETTER, LETTERS.indexOf((char) sign()));
-                at++;
+                text.add(Text.LETTER, LETTERS.indexOf((char) sign));
+                move();
             } else {
                 fail(STRANGE);
             }
         }
 
-        private void number() {
+        private int number() {
             int value = 0;
-            for (int digits = 0; digits < 6 && isOneOf("0123456789"); digits++) {
+            for (int digits = 0; digits < 6 && isOneOf(DIGITS); digits++) {
                 if (digits == 5) {
                     fail(SIXTH_DIGIT);
                 } else {
-                    value = 10 * value + sign() - '0';
-                    at++;
+                    value = 10 * value + sign - '0';
+                    move();
                 }
             }
-            text.add(Text.NUMBER, value);
+            return value;
         }
     }
 
@@ -1108,7 +1084,9 @@ public final class ThreeToSend {
         }
 
         void set(int letter, int value) {
-            Rows.put(letters, letter, value);
+            if (letter >= 0 && letter < letters.length) {
+                letters[letter] = value;
+            }
         }
 
         // E of the first CLAUSE of a letter whose C holds; 0 if there is none.
@@ -1129,8 +1107,9 @@ public final class ThreeToSend {
             height = 0;
             refused = false;
             for (int i = from; i < to && !refused; i++) {
-                int kind = text.stepAt(i) & 15;
-                int number = text.stepAt(i) >> 4;
+                int step = Rows.at(text.steps, i);
+                int kind = step & 15;
+                int number = step >> 4;
                 if (kind == Text.NUMBER) {
                     push(number);
                 } else if (kind == Text.LETTER) {
@@ -1152,13 +1131,18 @@ public final class ThreeToSend {
         }
 
         private void push(int value) {
-            Rows.put(stack, height, value);
-            height++;
+            if (height >= 0 && height < stack.length) {
+                stack[height] = value;
+                height++;
+            }
         }
 
         private int pop() {
+            if (height <= 0 || height > stack.length) {
+                return 0;
+            }
             height--;
-            return Rows.at(stack, height);
+            return stack[height];
         }
 
         private int both(int kind, int left, int right) {
@@ -1186,12 +1170,14 @@ public final class ThreeToSend {
         static final int OTHERS = 3;
         static final int RULE = 4;
         static final int RULES = 4;
-        // The letters by their places in Reader.LETTERS; f and m stand behind b and l.
+        // The letters by their places in Reader.LETTERS.
         private static final int T = 0;
         private static final int N = 1;
         private static final int S = 2;
         private static final int B = 3;
+        private static final int F = 4;
         private static final int L = 5;
+        private static final int M = 6;
         private static final int E = 7;
         private static final int X = 8;
         private static final int U = 9;
@@ -1238,6 +1224,7 @@ public final class ThreeToSend {
             return clausesOf(slot) > 0;
         }
 
+        // All others are 0 then.
         private void setMoment(int period, int score) {
             for (int letter = B; letter <= J; letter++) {
                 reckoner.set(letter, 0);
@@ -1250,15 +1237,16 @@ public final class ThreeToSend {
         private void setPlaces(int period, int code, int pace) {
             int back = Squad.whoIsAt(code, 0);
             int front = Squad.whoIsAt(code, 1);
-            setPlace(0, back, back < 0 ? 0 : squad.legsOf(back, period, code, pace));
-            setPlace(1, front, front < 0 ? 0 : squad.legsOf(front, period, code, pace));
+            if (back >= 0) {
+                reckoner.set(B, squad.goodAt(back, 0));
+                reckoner.set(L, squad.legsOf(back, period, code, pace));
+            }
+            if (front >= 0) {
+                reckoner.set(F, squad.goodAt(front, 1));
+                reckoner.set(M, squad.legsOf(front, period, code, pace));
+            }
             reckoner.set(E, (back < 0 ? 1 : 0) + (front < 0 ? 1 : 0));
             reckoner.set(Q, back < 0 || front < 0 ? 0 : squad.pairOf(back, front));
-        }
-
-        private void setPlace(int place, int who, int legs) {
-            reckoner.set(B + place, who < 0 ? 0 : squad.goodAt(who, place));
-            reckoner.set(L + place, legs);
         }
 
         int strongOf(int other, int period, int score) {
@@ -1381,7 +1369,7 @@ public final class ThreeToSend {
             long held = Rows.longAt(firsts, keyThen);
             if (held == 0) {
                 tune(otherThen, mostThen, atOnceThen, paceThen);
-                held = valueOf(0, 0, Squad.FIRST_CODE) + 1;
+                held = (held(0, 0, Squad.FIRST_CODE) >> 6) + 1;
                 Rows.putLong(firsts, keyThen, held);
             }
             return held - 1;
@@ -1474,7 +1462,8 @@ public final class ThreeToSend {
             int slot = Odds.OTHERS * k + other;
             long held = Rows.longAt(firsts, slot);
             if (held == 0) {
-                from(k, 0, 0, Squad.FIRST_CODE, other);
+                Rows.clear(ends);
+                go(k, other, 0, 0, Squad.FIRST_CODE, 1);
                 held = value() + 1;
                 Rows.putLong(firsts, slot, held);
             }
