@@ -19,8 +19,6 @@ public final class ThreeToSend {
     private final Walk walk;
     private final Log log;
     private final Season weeks;
-    // What is read first goes here, so that a text with a fault leaves the one before as it was.
-    private Text spare;
     private int x;
 
     public ThreeToSend() {
@@ -32,7 +30,6 @@ public final class ThreeToSend {
         walk = new Walk(squad, odds);
         log = new Log(squad);
         weeks = new Season(squad);
-        spare = new Text();
         x = 1;
     }
 
@@ -389,10 +386,10 @@ public final class ThreeToSend {
         if (n < 1 || n > Text.MOST_BYTES || n > tape.length) {
             return NONE;
         }
-        int answer = reader.read(spare, n, heads);
+        int answer = reader.read(n, heads);
         tape.length = 0;
         if (answer > 0) {
-            spare = odds.tell(slot, spare);
+            reader.text = odds.tell(slot, reader.text);
             walk.forget();
             if (slot < Odds.RULE) {
                 bench.forget();
@@ -881,8 +878,9 @@ public final class ThreeToSend {
         private static final int THE_END = -1;
         private static final int AT_FAULT = -2;
 
+        // What is read goes here, so that a TEXT with a FAULT leaves the one before as it was.
+        Text text;
         private final int[] bytes;
-        private Text text;
         private String heads;
         private int end;
         private int at;
@@ -893,17 +891,13 @@ public final class ThreeToSend {
 
         Reader(int[] bytes) {
             this.bytes = bytes;
-            text = null;
+            text = new Text();
             heads = "";
         }
 
         // How many CLAUSES, or the FAULT as the face tells it.
-        int read(Text into, int n, String headLetters) {
-            text = into;
+        int read(int n, String headLetters) {
             heads = headLetters;
-            if (text == null || heads == null) {
-                return NONE;
-            }
             text.empty();
             end = n;
             open = 0;

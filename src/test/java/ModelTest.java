@@ -97,8 +97,9 @@ public final class ModelTest {
         for (int i = 0; i < clauses; i++) {
             String head = "" + heads.charAt(random.nextInt(heads.length()));
             int depth = random.nextInt(5);
-            String number = head.equals("c") ? pick("" + random.nextInt(7), "" + pick("23", "29", "37", "39", "43", "45"),
-                    sum(depth)) : pick("" + random.nextInt(50), "10+b-o", "5*f/2+q", "3+j*k", sum(depth), sum(depth));
+            String number = head.equals("c")
+                    ? pick("" + random.nextInt(7), pick("23", "29", "37", "39", "43", "45"), sum(depth))
+                    : pick("" + random.nextInt(50), "10+b-o", "5*f/2+q", "3+j*k", sum(depth), sum(depth));
             String test = pick("1=1", "s<1", "t>0", "e=0", "y=0", condition(depth), condition(depth));
             String clause = head + number + "(" + (clauses > 10 ? "1=1" : test) + ")";
             if (text.length() + clause.length() < 200) {
@@ -113,7 +114,9 @@ public final class ModelTest {
         int place = random.nextInt(Math.max(1, text.length()));
         switch (random.nextInt(5)) {
             case 0: spoilt.setLength(Math.max(1, place)); break;
-            case 1: spoilt.insert(place, pick("(((((((", "[[[[[[[", "!!!!!!!", "123456", "((", "[[", "!!", "!(![")); break;
+            case 1:
+                spoilt.insert(place, pick("(((((((", "[[[[[[[", "!!!!!!!", "123456", "((", "[[", "!!", "!(!["));
+                break;
             case 2: spoilt.deleteCharAt(place); break;
             default: spoilt.setCharAt(place, SIGNS.charAt(random.nextInt(SIGNS.length()))); break;
         }
@@ -151,7 +154,9 @@ public final class ModelTest {
     /** From low to high, now and then a bit beside it. */
     private int about(int low, int high) {
         if (random.nextInt(60) == 0) {
-            return random.nextInt(3) == 0 ? random.nextInt() : random.nextBoolean() ? low - 1 : high + 1;
+            int far = random.nextInt(3) == 0 ? random.nextInt() : random.nextBoolean() ? Integer.MIN_VALUE
+                    : Integer.MAX_VALUE;
+            return random.nextInt(3) == 0 ? far : random.nextBoolean() ? low - 1 : high + 1;
         }
         return low + random.nextInt(high - low + 1);
     }
@@ -282,7 +287,8 @@ public final class ModelTest {
                 break;
             }
             case 10: case 11:
-                is("says " + k + state, x.says(k, period, score, code, other), model.says(k, period, score, code, other));
+                is("says " + k + state, x.says(k, period, score, code, other),
+                        model.says(k, period, score, code, other));
                 break;
             case 12:
                 is("edge " + score + " " + other, x.edge(score, other), model.edge(score, other));

@@ -98,7 +98,9 @@ public final class PromiseTest {
         Due.other(x, 0, "o1(1=1)");
         long before = x.best(4, 0, 3000, 0, 0) + x.game(0);
         x.match(4, 0, 1);
-        due.is("2: VALUES are reckoned anew", x.best(3, 0, 3000, 0, 0), 3 * 4 + 96);
+        due.is("2: VALUES are reckoned anew by C", x.best(3, 0, 3000, 0, 0), 3 * 4 + 96);
+        x.match(3, 0, 1);
+        due.is("2: VALUES are reckoned anew by n", x.best(2, 0, 3000, 0, 0), 3 * 3 + 97);
         due.is("2: GAME is reckoned anew", x.game(0) < before, true);
     }
 
@@ -891,6 +893,11 @@ public final class PromiseTest {
         for (String law : alone) {
             Due.law(far, law);
             due.is("21: one is too far", far.mixed(0, 1, 0, 1, 0), -2);
+        }
+        String[] low = {"g0(t=0&o=1&b=1)", "g0(t=0&o=2&b=1)", "g0(t=0&o=1&b=0)", "g0(t=0&o=2&b=0)"};
+        for (String law : low) {
+            Due.law(far, law + ";g20(t=0)");
+            due.is("21: one is too far below", far.mixed(0, 1, 0, 1, 0), -2);
         }
         Due.law(far, "g40(1=1)");
         due.is("21: far from 0, but not from one another", far.mixed(0, 1, 0, 1, 1), 0);
