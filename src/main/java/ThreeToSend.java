@@ -129,10 +129,7 @@ public final class ThreeToSend {
         if (!isOther(other) || what < 0 || what > 1) {
             return -1;
         }
-        if (period == squad.periods) {
-            if (!isScore(score) || !squad.isCode(code)) {
-                return -1;
-            }
+        if (isEnd(period, score, code)) {
             return what == 0 ? squad.worthOf(score) : NONE;
         }
         if (!isState(period, score, code)) {
@@ -143,10 +140,10 @@ public final class ThreeToSend {
     }
 
     public long by(int k, int period, int score, int code, int other, int what) {
-        if (!isRule(k) || !odds.isTold(Odds.RULE + k) || !isState(period, score, code)) {
+        if (!isRule(k) || !odds.isTold(Odds.RULE + k) || !isOther(other) || what < 0 || what > 3) {
             return -1;
         }
-        if (!isOther(other) || what < 0 || what > 3) {
+        if (!isState(period, score, code) && !isEnd(period, score, code)) {
             return -1;
         }
         walk.from(k, period, score, code, other);
@@ -362,6 +359,11 @@ public final class ThreeToSend {
 
     private boolean isState(int period, int score, int code) {
         return period >= 0 && period < squad.periods && isScore(score) && squad.isCode(code);
+    }
+
+    // Behind the last PERIOD: a VALUE is told there, but there is no break.
+    private boolean isEnd(int period, int score, int code) {
+        return period == squad.periods && isScore(score) && squad.isCode(code);
     }
 
     private boolean isLegal(int period, int score, int code, int action) {

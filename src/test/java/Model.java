@@ -694,7 +694,7 @@ final class Model {
     }
 
     long by(int k, int period, int score, int code, int other, int what) {
-        Side side = known(period, score, code);
+        Side side = in(period, 0, n) && in(score, -2, 2) ? side(code, period, 0) : null;
         if (!told(k) || side == null || !in(other, 0, 2) || !in(what, 0, 3)) {
             return -1;
         }

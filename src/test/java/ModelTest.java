@@ -254,7 +254,8 @@ public final class ModelTest {
     }
 
     private void ask() {
-        int period = about(0, 4) % Math.max(1, model.count(0) + random.nextInt(8) / 7);
+        // Now and then behind the last one, too.
+        int period = random.nextInt(12) == 0 ? model.count(0) : about(0, 4) % Math.max(1, model.count(0));
         int score = about(-2, 2);
         int code = code();
         int other = about(0, 2);

@@ -675,6 +675,36 @@ public final class PromiseTest {
         for (int[] w : none) {
             due.is("14: no such ones", x.by(w[0], w[1], w[2], w[3], w[4], w[5]), -1);
         }
+        byBehindTheLastPeriod();
+    }
+
+    private void byBehindTheLastPeriod() {
+        for (int n = 1; n <= 5; n++) {
+            ThreeToSend x = team();
+            x.match(n, 2, 2);
+            x.worth(700, 50, 3);
+            Due.law(x, "g100(s<0);a100(s>0)");
+            due.is("14: behind the last, not told", x.by(2, n, 0, 3000, 0, 0), -1);
+            Due.rule(x, 2, "c1(1=1)");
+            for (int score = -2; score <= 2; score++) {
+                for (int code : new int[] {3000, 0, 2007, 770, 41, 1005}) {
+                    String state = "14: behind the last of " + n + ", by " + score + ", " + code + ": ";
+                    due.is(state + "VALUE", x.by(2, n, score, code, 1, 0), score > 0 ? 700 : score == 0 ? 50 : 3);
+                    due.is(state + "won", x.by(2, n, score, code, 1, 1), score > 0 ? 1 : 0);
+                    due.is(state + "drawn", x.by(2, n, score, code, 1, 2), score == 0 ? 1 : 0);
+                    due.is(state + "lost", x.by(2, n, score, code, 1, 3), score < 0 ? 1 : 0);
+                    due.is(state + "as BEST", x.by(2, n, score, code, 1, 0), x.best(n, score, code, 1, 0));
+                    due.is(state + "says", x.says(2, n, score, code, 1), NONE);
+                }
+            }
+            int[][] none = {{-1, n, 0, 3000, 0, 0}, {4, n, 0, 3000, 0, 0}, {1, n, 0, 3000, 0, 0},
+                {2, n + 1, 0, 3000, 0, 0}, {2, n, -3, 3000, 0, 0}, {2, n, 3, 3000, 0, 0}, {2, n, 0, 777, 0, 0},
+                {2, n, 0, 3001, 0, 0}, {2, n, 0, -1, 0, 0}, {2, n, 0, 4000, 0, 0}, {2, n, 0, 3000, -1, 0},
+                {2, n, 0, 3000, 3, 0}, {2, n, 0, 3000, 0, -1}, {2, n, 0, 3000, 0, 4}};
+            for (int[] w : none) {
+                due.is("14: no such ones behind the last", x.by(w[0], w[1], w[2], w[3], w[4], w[5]), -1);
+            }
+        }
     }
 
     // Promise 15.
